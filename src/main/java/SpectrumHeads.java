@@ -43,6 +43,7 @@ public final class SpectrumHeads {
     }
 
     public boolean white(int k, int v) throws ArrayIndexOutOfBoundsException {
+        // No channel is told before a wrong value: the document's throw has no condition beside it.
         if (!isChannel(k)) {
             throw new ArrayIndexOutOfBoundsException("there is no such channel");
         }
@@ -106,13 +107,14 @@ public final class SpectrumHeads {
         if (!isKind(kind) || !isKind(as) && as != NONE) {
             return NONE;
         }
-        long rows = 0L;
-        for (int i = 0; i < table.size(); i++) {
+        long found = 0L;
+        int rows = table.size();
+        for (int i = 0; i < rows; i++) {
             if (table.kindOf(i) == kind && readWithout(i) == as) {
-                rows++;
+                found++;
             }
         }
-        return rows;
+        return found;
     }
 
     public int correct(int taught, int kind) {

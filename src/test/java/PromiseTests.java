@@ -488,6 +488,31 @@ public final class PromiseTests {
         Due.is("a new first one", x.piece(7, 0), 0);
         Due.is("the others move on", x.piece(5, 5), 3);
         snake();
+        wholeBelt();
+    }
+
+    /** As many pixels as there may be: in one piece, then in a hundred. */
+    private static void wholeBelt() {
+        SpectrumHeads x = taughtAll(1);
+        for (int i = 0; i < 100; i++) {
+            Due.yes("block", x.pixel(i % 10, i / 10));
+        }
+        for (int i = 0; i < 100; i++) {
+            Due.is("piece of block " + i, x.piece(i % 10, i / 10), 0);
+        }
+        Due.is("one piece", x.neighbours(1), NONE);
+        SpectrumHeads z = taughtAll(1);
+        for (int i = 99; i >= 0; i--) {
+            Due.yes("board", z.pixel(i % 8 * 2 + i / 8 % 2, i / 8));
+        }
+        for (int i = 0; i < 100; i++) {
+            Due.is("piece of board " + i, z.piece(i % 8 * 2 + i / 8 % 2, i / 8), i);
+        }
+        Due.is("the first has a corner", z.neighbours(0), 1);
+        Due.is("one inside has four", z.neighbours(9), 4);
+        Due.is("the last one", z.neighbours(99), 2);
+        Due.is("the last one's kind", z.pieceKind(99), 0);
+        Due.is("no more pieces", z.pieceKind(100), NONE);
     }
 
     /** A piece that winds from its last place back to its first. */
@@ -524,7 +549,11 @@ public final class PromiseTests {
         Due.is("most", x.pieceKind(0), 1);
         put(x, 0, 8, 8);
         Due.is("the second piece", x.pieceKind(1), 0);
-        for (int p : new int[] {-1, 2, Integer.MIN_VALUE, Integer.MAX_VALUE}) {
+        put(x, 1, 0, 15);
+        show(x, 0);
+        Due.is("the row of now", x.read(), 0);
+        Due.is("is nothing to a piece", x.pieceKind(2), 1);
+        for (int p : new int[] {-1, 3, Integer.MIN_VALUE, Integer.MAX_VALUE}) {
             Due.is("pieceKind(" + p + ")", x.pieceKind(p), NONE);
         }
     }
@@ -622,6 +651,7 @@ public final class PromiseTests {
         Due.is("numbered on", x.teach(1), 2);
         feedAll(x, 3, 0, 3);
         Due.is("no rows", x.open(), 0);
+        packIs("no rows", x, 3, 0, 3);
         Due.is("no rows then", x.leftOut(0), -2);
         Due.is("numbered anew", x.teach(1), 0);
         openForty();
