@@ -13,7 +13,7 @@ final class Run {
     static final int[] DOWN_UP = {255, 0, 255, 0, 255, 0, 255, 0};
     /** Cells between those of the others: 5 and 3 in turn. */
     static final int[] WAVES = {0, 64, 0, 64, 0, 64, 0, 64};
-    /** By kind, the rows that readAll teaches and pixels shows. */
+    /** By kind, the rows that teachAll teaches and pixels shows. */
     static final int[][] ROWS = {FLAT, UP_DOWN, DOWN_UP, WAVES};
 
     private static final int MOST_CALLS = 512;
